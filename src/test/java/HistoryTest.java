@@ -14,6 +14,7 @@ final class HistoryTest {
         undoLeavesTheRest();
         clearAndRestoreForgetChanges();
         whatWasSavedIsRestored();
+        partsAreRestoredWhole();
         restoreLeavesTheRest();
         restoreIsRefused();
         Check.end("HistoryTest");
@@ -194,6 +195,27 @@ final class HistoryTest {
         x.addPart(9, 9, 9, 9);
         Check.due("restore of nothing", x.restore(), 0);
         Check.due("no part", x.count(0), 0);
+    }
+
+    /** Other parts, kits, requests, repairs and orders must not shine through. */
+    private static void partsAreRestoredWhole() {
+        SparePlanner x = filled();
+        String before = Answers.ofWorld(x);
+        x.save();
+        x.clear();
+        for (int part = 0; part < 8; part++) {
+            x.addPart(50 + part, 7, 8, 90);
+            x.setBounds(part, 100 + part, 200 + part);
+            x.addKit(part / 2, part, 9);
+            x.request(part, 300);
+            x.giveBack(part, 7, false);
+            x.send(part, 3);
+            if (part > 0) {
+                x.addSubstitute(part, part - 1);
+            }
+        }
+        x.restore();
+        Check.same("all answers behind restore", Answers.ofWorld(x), before);
     }
 
     private static void restoreLeavesTheRest() {

@@ -146,6 +146,7 @@ final class MovementsTest {
         Check.due("the lowest number", withShares(new int[][] {{3, 3}, {1, 2}, {2, 4}}).weakest(), 1);
         Check.due("only requested parts", withShares(new int[][] {{5, 0}, {9, 0}, {2, 2}}).weakest(), 2);
         Check.due("none at once", withShares(new int[][] {{1, 9}, {0, 9}, {0, 1}}).weakest(), 1);
+        Check.due("one piece is enough", withShares(new int[][] {{1, 0}, {1, 1}}).weakest(), 1);
         SparePlanner x = withShares(new int[][] {{5, 0}, {9, 0}});
         Check.refuses(x, "weakest of none", ELEMENT, x::weakest);
         SparePlanner empty = new SparePlanner();

@@ -11,6 +11,7 @@ final class PartsTest {
         aNewObjectIsEmpty();
         clearRemovesParts();
         clearLeavesTheRest();
+        partsBehindClearBeginAnew();
         partsAreAdded();
         partsAreRefused();
         boundsAreSet();
@@ -103,6 +104,29 @@ final class PartsTest {
         Check.due("read behind clear", x.read(), 1);
         Check.due("restore behind clear", x.restore(), 2);
         Check.same("all answers behind restore", Answers.ofWorld(x), world);
+    }
+
+    private static void partsBehindClearBeginAnew() {
+        SparePlanner x = new SparePlanner();
+        for (int part = 0; part < 3; part++) {
+            x.addPart(7, 1, 1, 50);
+            x.request(part, 5);
+            x.giveBack(part, 9, false);
+            x.send(part, 3);
+        }
+        x.addSubstitute(0, 1);
+        x.advance(1);
+        Check.due("a sum of hundredths", x.part(0, 8), 50);
+        x.clear();
+        x.addPart(4, 2, 3, 60);
+        int[] due = {4, 0, 0, 0, 2, 3, 60, 4, 0, 0};
+        for (int what = 0; what < 10; what++) {
+            Check.due("part(0, " + what + ") behind clear", x.part(0, what), due[what]);
+        }
+        x.request(0, 8);
+        Check.same("the share of a new part", x.service(0), 4f / 8f);
+        Check.same("the average of new parts", x.averageService(), 0.5);
+        Check.due("the weakest of new parts", x.weakest(), 0);
     }
 
     private static void partsAreAdded() {

@@ -16,7 +16,9 @@ final class RequestsTest {
         whatWouldBeTakenIsTold();
         waitingRequestsAreTold();
         waitingRequestsAreCancelled();
+        oneOfTwelveIsCancelled();
         kitsAreTaken();
+        kitsOfFourItemsAreTaken();
         kitsAreTakenWithSubstitutes();
         kitsTakeAllOrNothing();
         kitsAreRefused();
@@ -219,6 +221,32 @@ final class RequestsTest {
         Check.same("nor counts for service", Check.outcome(() -> x.service(0)), "ArithmeticException");
     }
 
+    private static void oneOfTwelveIsCancelled() {
+        SparePlanner x = withStocks(0);
+        for (int i = 1; i <= 12; i++) {
+            x.request(0, i);
+        }
+        Check.due("cancel the fourth one", x.cancel(3), 4);
+        for (int index = 0; index < 11; index++) {
+            Check.due("the number of one that stays", x.waiting(index, 0), index < 3 ? index : index + 1);
+        }
+        Check.due("cancel the last one", x.cancel(10), 12);
+        Check.due("ten wait", x.count(2), 10);
+    }
+
+    private static void kitsOfFourItemsAreTaken() {
+        SparePlanner x = withStocks(9, 9, 9, 9, 9);
+        for (int part = 0; part < 4; part++) {
+            x.addKit(0, part, part + 1);
+        }
+        Check.due("possible", x.possible(0), 2);
+        Check.due("lacking", x.lacking(0), -1);
+        Check.due("take", x.take(0), 0);
+        stocks("take", x, 8, 7, 6, 5, 9);
+        x.take(0);
+        Check.due("the last item lacks", x.lacking(0), 303);
+    }
+
     private static void kitsAreTakenWithSubstitutes() {
         SparePlanner x = withStocks(2, 6, 9);
         x.addSubstitute(0, 1);
@@ -308,7 +336,11 @@ final class RequestsTest {
         x.addKit(2, 0, 9);
         x.addKit(2, 3, 1);
         Check.due("one piece of part 3", x.lacking(2), 301);
-        Check.refuses(x, "lacking(3) of 3", INDEX, () -> x.lacking(3));
+        x.addKit(3, 7, 1);
+        Check.refusesButKeeps(x, "take", UNSUPPORTED, () -> x.take(3));
+        Check.due("the part", x.reason(1), 7);
+        Check.due("one piece", x.reason(2), 1);
+        Check.refuses(x, "lacking(4) of 4", INDEX, () -> x.lacking(4));
         Check.refuses(x, "lacking(-1)", INDEX, () -> x.lacking(-1));
     }
 }

@@ -208,6 +208,14 @@ final class StocksTest {
         Check.due("none of them", x.advance(1), 0);
         Check.due("the sum stays", x.part(0, 8), 40);
         Check.due("audit", x.audit(), 0);
+        SparePlanner y = new SparePlanner();
+        y.addPart(0, 1, 1, 99);
+        y.giveBack(0, 2, false);
+        y.send(0, 1);
+        Check.due("99 hundredths are no piece", y.advance(1), 0);
+        y.send(0, 1);
+        Check.due("198 are one piece", y.advance(1), 1);
+        Check.due("98 are left", y.part(0, 8), 98);
     }
 
     private static void repairsUseTheYieldOfTheirEnd() {
@@ -346,6 +354,10 @@ final class StocksTest {
         Check.due("the position", x.part(0, 7), 2);
         x.setYield(0, 99);
         Check.due("the position with another yield", x.part(0, 7), 4);
+        x.setYield(0, 100);
+        Check.due("the position with all pieces", x.part(0, 7), 7);
+        x.setYield(0, 0);
+        Check.due("the position with none", x.part(0, 7), 0);
         Check.due("broken pieces do not count", x.part(0, 1), 2);
     }
 

@@ -33,15 +33,17 @@ final class TextsTest {
         x.advance(3);
         x.request(1, 6);
         Check.due("sample", x.sample(1, 2, 1), 1);
+        Check.due("another sample", x.sample(1, 0, 0), 2);
         String rest = Answers.ofRest(x);
         x.giveBack(1, 9, true);
         x.advance(1);
         x.undo();
         x.clear();
         Check.same("the sample stays as it was", Answers.ofRest(x), rest);
-        int[] due = {1, 0, -4, 3};
+        int[][] due = {{0, 5, 5, 3}, {1, 0, -4, 3}};
         for (int what = 0; what < 4; what++) {
-            Check.due("sampled(1, 2, " + what + ")", x.sampled(1, 2, what), due[what]);
+            Check.due("sampled(1, 0, " + what + ")", x.sampled(1, 0, what), due[0][what]);
+            Check.due("sampled(1, 2, " + what + ")", x.sampled(1, 2, what), due[1][what]);
         }
     }
 
@@ -177,11 +179,11 @@ final class TextsTest {
         String[] texts = {"", "x", "R0*1;", " d1;", "d", "d1", "d0;", "d10;", "d1;;", "d1; ", "d1;d", "r", "r0", "r0*",
             "r0*1", "r0*12", "r0*123", "r0*1234;", "r8*1;", "r0x1;", "r0*0;", "r0*;", "r0*01;", "r0*1x;", "r0*12x",
             "r0*123x", "k4;", "k", "k0", "k00;", "k0*1;", "g-1*1;", "b0**1;", "s0*1;r0*1;k3;d9;g", "d1;r0*1;k9;", "*",
-            ";", "0", "s7*999;b7*1000;", "d:;", "d/;", "r0*1:", "r0*1/"};
+            ";", "0", "s7*999;b7*1000;", "d:;", "d/;", "r0*1:", "r0*1/", "r0*:", "r0*/", "r/*1;", "k/;"};
         int[] due = {0, 0, 0, 0, 1, 2, 1, 2, 3, 3, 4, 1, 2, 3,
             4, 5, 6, 6, 1, 2, 3, 3, 3, 4, 5,
             6, 1, 1, 2, 2, 2, 1, 3, 17, 9, 0,
-            0, 0, 13, 1, 1, 4, 4};
+            0, 0, 13, 1, 1, 4, 4, 3, 3, 1, 1};
         for (int i = 0; i < texts.length; i++) {
             Check.append(x, texts[i]);
             Check.refusesButKeeps(x, "read of '" + texts[i] + "'", ARGUMENT, x::read);
