@@ -227,7 +227,7 @@ public final class SparePlanner {
         needRange(quantity, 1, MAX_PIECES);
         int obstacle = world.obstacleToRequest(part, quantity);
         if (obstacle != NO_REASON) {
-            keepReason(obstacle);
+            lastReason = obstacle;
             throw new IllegalStateException("12 requests wait");
         }
         remember();
@@ -312,7 +312,7 @@ public final class SparePlanner {
         needRange(quantity, 1, MAX_PIECES);
         int obstacle = world.obstacleToSending(part, quantity);
         if (obstacle != NO_REASON) {
-            keepReason(obstacle);
+            lastReason = obstacle;
         }
         if (obstacle == NOT_SO_MANY_BROKEN) {
             throw new UnsupportedOperationException("there are not so many broken pieces");
@@ -465,7 +465,7 @@ public final class SparePlanner {
     }
 
     public int read() throws IllegalArgumentException, UnsupportedOperationException {
-        int error = text.parse();
+        int error = text.parseToError();
         text.length = 0;
         if (error != NOTHING) {
             lastError = error;
@@ -568,12 +568,8 @@ public final class SparePlanner {
         remembered = 0;
     }
 
-    private void keepReason(int reason) {
-        lastReason = reason;
-    }
-
     private void keepLack(int lack) {
-        keepReason(ITEM_NOT_SERVED);
+        lastReason = ITEM_NOT_SERVED;
         reasonPart = lack / 100;
         reasonMissing = lack % 100;
     }
@@ -593,57 +589,35 @@ public final class SparePlanner {
     private boolean tryEntry(int kind, int number, int quantity) {
         switch (kind) {
             case 'd': trial.passDays(number); return true;
-            case 'k': return tryTaking(number);
-            case 'r': return tryRequest(number, quantity);
-            case 's': return trySending(number, quantity);
-            default: return tryReturn(number, quantity, kind == 'g');
+            case 'k': return trial.hasKit(number) && tryTaking(number);
+            default: return trial.hasPart(number) && tryPieces(kind, number, quantity);
         }
     }
 
     private boolean tryTaking(int kit) {
-        if (!trial.hasKit(kit)) {
-            return false;
-        }
         int lack = trial.serveItems(kit);
         if (lack != NOTHING) {
             keepLack(lack);
-            return false;
         }
-        return true;
+        return lack == NOTHING;
     }
 
-    private boolean tryRequest(int part, int quantity) {
-        if (!trial.hasPart(part)) {
-            return false;
+    private boolean tryPieces(int kind, int part, int quantity) {
+        int obstacle = NO_REASON;
+        if (kind == 'r') {
+            obstacle = trial.obstacleToRequest(part, quantity);
+        } else if (kind == 's') {
+            obstacle = trial.obstacleToSending(part, quantity);
         }
-        int obstacle = trial.obstacleToRequest(part, quantity);
         if (obstacle != NO_REASON) {
-            keepReason(obstacle);
+            lastReason = obstacle;
             return false;
         }
-        trial.makeRequest(part, quantity);
-        return true;
-    }
-
-    private boolean trySending(int part, int quantity) {
-        if (!trial.hasPart(part)) {
-            return false;
+        switch (kind) {
+            case 'r': trial.makeRequest(part, quantity); return true;
+            case 's': trial.sendBroken(part, quantity); return true;
+            default: trial.takeBack(part, quantity, kind == 'g'); return true;
         }
-        int obstacle = trial.obstacleToSending(part, quantity);
-        if (obstacle != NO_REASON) {
-            keepReason(obstacle);
-            return false;
-        }
-        trial.sendBroken(part, quantity);
-        return true;
-    }
-
-    private boolean tryReturn(int part, int quantity, boolean isGood) {
-        if (!trial.hasPart(part)) {
-            return false;
-        }
-        trial.takeBack(part, quantity, isGood);
-        return true;
     }
 
     // ---- bits of shares, which are 0 or from some millionth to 1
@@ -785,7 +759,6 @@ public final class SparePlanner {
             return stock;
         }
 
-        /** Serves what can be served of a quantity, and returns how many pieces that is. */
         int serve(int part, int quantity) {
             Part asked = parts[part];
             int rest = quantity - asked.issue(quantity);
@@ -828,7 +801,7 @@ public final class SparePlanner {
             return removed.missing;
         }
 
-        /** Lets pieces come into a stock, and returns how many requests wait no longer. */
+        // the answer is how many requests wait no longer, as giveBack tells it
         int comeIn(int part, int pieces) {
             parts[part].stock += pieces;
             return serveWaiting();
@@ -852,9 +825,9 @@ public final class SparePlanner {
         }
 
         /**
-         * Serves the items of a kit one after the other; returns NOTHING if all are served,
-         * and else 100 times the part of the first that is not plus the pieces missing for it,
-         * which are fewer than 10; only a world that is thrown away then may be asked this.
+         * The answer is NOTHING if all items are served, or what lacking tells; an item has at
+         * most 9 pieces, so those that are missing never reach into the hundreds. What was served
+         * before stays taken, so only a world that is thrown away may be asked this.
          */
         int serveItems(int kit) {
             Kit asked = kits[kit];
@@ -867,7 +840,7 @@ public final class SparePlanner {
             return NOTHING;
         }
 
-        /** Takes a kit that can be taken, and returns how many pieces are of substitutes. */
+        // whether the kit can be taken was tried before, so that all its items are served here
         int takeItems(int kit) {
             Kit asked = kits[kit];
             int ofSubstitutes = 0;
@@ -1071,7 +1044,7 @@ public final class SparePlanner {
             return pieces;
         }
 
-        /** Ends a repair, and returns the repaired pieces, which are not yet in the stock. */
+        // the repaired pieces are not put into the stock here: they serve waiting requests there
         int endRepair(int quantity) {
             hundredths += quantity * percent;
             int repaired = hundredths / 100;
@@ -1143,7 +1116,7 @@ public final class SparePlanner {
         }
     }
 
-    /** A repair or an order under way. */
+    // repairs and orders under way have the same numbers, so one class holds both
     private static final class Batch {
         int part;
         int quantity;
@@ -1164,7 +1137,6 @@ public final class SparePlanner {
         }
     }
 
-    /** The repairs or the orders under way, in the order in which they began. */
     private static final class BatchList {
         final Batch[] batches = new Batch[MAX_UNDER_WAY];
         int size;
@@ -1218,7 +1190,7 @@ public final class SparePlanner {
             return pieces;
         }
 
-        /** Rounded down for each repair of its own, as a position wants it. */
+        // each repair is rounded down for itself, since that is how a position counts it
         int expectedOf(int part, int percent) {
             int pieces = 0;
             for (int i = 0; i < size; i++) {
@@ -1230,7 +1202,6 @@ public final class SparePlanner {
         }
     }
 
-    /** A copy of a part in a place of a shelf. */
     private static final class Sample {
         boolean isFilled;
         int part;
@@ -1239,7 +1210,6 @@ public final class SparePlanner {
         int day;
     }
 
-    /** The input, and the entries that were found in it. */
     private static final class Text {
         // what must come next
         private static final int ENTRY = 0;
@@ -1259,8 +1229,7 @@ public final class SparePlanner {
         final int[] quantities = new int[MAX_ENTRIES];
         int entryCount;
 
-        /** Finds the entries; returns the error position, or NOTHING if there is none. */
-        int parse() {
+        int parseToError() {
             entryCount = 0;
             int expected = ENTRY;
             for (int i = 0; i < length; i++) {
@@ -1274,7 +1243,7 @@ public final class SparePlanner {
             return length > 0 && expected == ENTRY ? NOTHING : length;
         }
 
-        /** Each expectation can be fulfilled, so what answers NOTHING is where no text goes on. */
+        // whatever is expected can still come, so no text goes on only where this says NOTHING
         private static int nextAfter(int expected, char found) {
             switch (expected) {
                 case ENTRY: return nextAfterKind(found);
