@@ -1,7 +1,12 @@
-/** All that a planner answers to questions, as one text, so that two states can be compared. */
-final class Answers {
-    private static final int TOO_FAR = 13;
+import java.util.Map;
+import java.util.TreeMap;
+import java.util.function.Supplier;
 
+/**
+ * All that a planner answers to questions, as texts, so that two states can be compared. Only what
+ * is there is asked for, so that the questions and what was done before stay below 512 calls.
+ */
+final class Answers {
     private Answers() {
     }
 
@@ -18,9 +23,9 @@ final class Answers {
         for (int kit = 0; kit < x.count(1); kit++) {
             addKit(all, x, kit);
         }
-        for (int index = 0; index < TOO_FAR; index++) {
-            addRows(all, x, index);
-        }
+        addRows(all, "waiting", x.count(2), 5, x::waiting);
+        addRows(all, "repair", x.count(3), 3, x::repair);
+        addRows(all, "order", x.count(4), 3, x::order);
         add(all, x::audit);
         add(all, x::weakest);
         add(all, x::averageService);
@@ -30,13 +35,20 @@ final class Answers {
 
     /** What it does not remember, but for the input, which nothing tells. */
     static String ofRest(SparePlanner x) {
+        return Check.outcome(x::errorPosition) + ' ' + Check.outcome(x::refused) + ofReason(x) + ofShelves(x);
+    }
+
+    private static String ofReason(SparePlanner x) {
         StringBuilder all = new StringBuilder();
-        add(all, x::errorPosition);
-        add(all, x::refused);
         for (int what = 0; what < 3; what++) {
             int asked = what;
             add(all, () -> x.reason(asked));
         }
+        return all.toString();
+    }
+
+    private static String ofShelves(SparePlanner x) {
+        StringBuilder all = new StringBuilder();
         for (int place = 0; place < 6; place++) {
             for (int what = 0; what < 4; what++) {
                 int shelf = place / 3;
@@ -44,6 +56,47 @@ final class Answers {
                 int asked = what;
                 add(all, () -> x.sampled(shelf, index, asked));
             }
+        }
+        return all.toString();
+    }
+
+    /**
+     * The whole state, by the names of its pieces: also what is told only by undo, restore and read,
+     * each of which is called on a planner of its own, made for it.
+     */
+    static Map<String, String> ofAll(Supplier<SparePlanner> made) {
+        Map<String, String> all = new TreeMap<>();
+        SparePlanner x = made.get();
+        all.put("world", ofWorld(x));
+        all.put("error position", Check.outcome(x::errorPosition));
+        all.put("refused entry", Check.outcome(x::refused));
+        all.put("reason", ofReason(x));
+        all.put("shelves", ofShelves(x));
+        all.put("input", ofInput(made.get()));
+        all.put("saved", ofSaved(made.get()));
+        all.put("history", ofHistory(made));
+        return all;
+    }
+
+    /** A semicolon makes a text of many inputs, so that what they hold shows in what is read. */
+    private static String ofInput(SparePlanner x) {
+        return Check.outcome(() -> x.append(';')) + ' ' + Check.outcome(x::read) + ' '
+            + Check.outcome(x::errorPosition) + ' ' + Check.outcome(x::refused) + ofWorld(x);
+    }
+
+    private static String ofSaved(SparePlanner x) {
+        return Check.outcome(x::restore) + ofWorld(x);
+    }
+
+    private static String ofHistory(Supplier<SparePlanner> made) {
+        StringBuilder all = new StringBuilder();
+        String answer = "";
+        for (int changes = 1; !answer.equals("NoSuchElementException"); changes++) {
+            SparePlanner x = made.get();
+            for (int i = 0; i < changes; i++) {
+                answer = Check.outcome(x::undo);
+            }
+            all.append("\nundo ").append(answer).append(ofWorld(x));
         }
         return all.toString();
     }
@@ -58,7 +111,7 @@ final class Answers {
             int asked = movement;
             add(all, () -> x.movement(part, asked));
         }
-        for (int index = 0; index < 4; index++) {
+        for (int index = 0; index < x.part(part, 9); index++) {
             int asked = index;
             add(all, () -> x.substitute(part, asked));
         }
@@ -71,25 +124,30 @@ final class Answers {
 
     private static void addKit(StringBuilder all, SparePlanner x, int kit) {
         all.append("\nkit ").append(kit).append(':');
-        for (int index = 0; index < 4; index++) {
-            int asked = index;
-            add(all, () -> x.item(kit, asked, true));
-            add(all, () -> x.item(kit, asked, false));
+        for (int index = 0; !Check.outcome(itemOf(x, kit, index, true)).endsWith("Exception"); index++) {
+            add(all, itemOf(x, kit, index, true));
+            add(all, itemOf(x, kit, index, false));
         }
         add(all, () -> x.possible(kit));
         add(all, () -> x.lacking(kit));
     }
 
-    private static void addRows(StringBuilder all, SparePlanner x, int index) {
-        all.append("\nrow ").append(index).append(':');
-        for (int what = 0; what < 5; what++) {
-            int asked = what;
-            add(all, () -> x.waiting(index, asked));
-        }
-        for (int what = 0; what < 3; what++) {
-            int asked = what;
-            add(all, () -> x.repair(index, asked));
-            add(all, () -> x.order(index, asked));
+    private static Check.Call itemOf(SparePlanner x, int kit, int index, boolean isPart) {
+        return () -> x.item(kit, index, isPart);
+    }
+
+    private interface Row {
+        int number(int index, int what);
+    }
+
+    private static void addRows(StringBuilder all, String name, int rows, int numbers, Row row) {
+        for (int index = 0; index < rows; index++) {
+            all.append('\n').append(name).append(' ').append(index).append(':');
+            for (int what = 0; what < numbers; what++) {
+                int asked = index;
+                int number = what;
+                add(all, () -> row.number(asked, number));
+            }
         }
     }
 
