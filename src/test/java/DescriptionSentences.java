@@ -141,16 +141,22 @@ final class DescriptionSentences extends Edges {
     }
 
     private static void boundsAtFirst() {
-        SparePlanner x = stocks(4).get();
-        x.addPart(3, 1, 1, 1);
-        x.setBounds(1, 7, 8);
-        x.undo();
-        x.undo();
-        x.addPart(3, 1, 1, 1);
-        due(x.part(1, 2), 0);
-        due(x.part(1, 3), 0);
-        due(x.advance(9), 0);
-        due(x.count(4), 0);
+        // another part was there before, with bounds, until undo, clear or restore took it away
+        Deed[] ways = {SparePlanner::undo, SparePlanner::clear, SparePlanner::restore};
+        for (Deed way : ways) {
+            SparePlanner x = stocks(4).and(SparePlanner::save).and(y -> y.addPart(3, 1, 1, 1)).get();
+            x.setBounds(0, 5, 6);
+            x.setBounds(1, 7, 8);
+            x.undo();
+            x.setBounds(1, 8, 9);
+            for (int i = 0; i < 3; i++) {
+                way.on(x);
+            }
+            int part = x.addPart(3, 1, 1, 1);
+            due(x.part(part, 2), 0);
+            due(x.part(part, 3), 0);
+            due(x.wanted(part), 0);
+        }
     }
 
     private static void substitutesAreFour() {
@@ -354,6 +360,10 @@ final class DescriptionSentences extends Edges {
         x.giveBack(0, 999, true);
         stocksAre(x, 1999);
         due(x.part(0, 1), 0);
+        for (int i = 0; i < 500; i++) {
+            x.giveBack(0, 999, true);
+        }
+        stocksAre(x, 1999 + 500 * 999);
     }
 
     private static void brokenPieces() {

@@ -194,6 +194,26 @@ final class PartsSentences extends Edges {
         y.request(0, 10);
         due(y.waiting(0, 0), 0);
         due(y.waiting(0, 4), 0);
+        nothingShinesThrough();
+    }
+
+    /** What is added behind clear has nothing of what was there before. */
+    private static void nothingShinesThrough() {
+        Scene[] scenes = {cleared(), repairs(12).and(x -> x.advance(9)).and(SparePlanner::clear),
+            fourSubstitutes().and(x -> x.request(0, 9)).and(SparePlanner::clear),
+            ((Scene) Edges::busy).and(x -> x.advance(2)).and(SparePlanner::clear), orders(12).and(SparePlanner::clear)};
+        for (Scene scene : scenes) {
+            SparePlanner x = scene.get();
+            SparePlanner y = new SparePlanner();
+            for (SparePlanner either : new SparePlanner[] {x, y}) {
+                for (int part = 0; part < 3; part++) {
+                    either.addPart(part, 9, 9, 1);
+                    either.addKit(part, part, 1);
+                    either.request(part, part + 1);
+                }
+            }
+            due(Answers.ofWorld(x), Answers.ofWorld(y));
+        }
     }
 
     private static void clearLeavesTheRest() {

@@ -85,6 +85,17 @@ final class PreciseSentences extends Edges {
         for (int part = 0; part < 3; part++) {
             due(x.part(part, 7), x.part(part, 3));
         }
+        SparePlanner most = stocks(0).and(y -> y.setBounds(0, 999, 999)).get();
+        for (int i = 0; i < 12; i++) {
+            most.request(0, 999);
+        }
+        due(most.count(7), 12 * 999);
+        due(most.wanted(0), 13 * 999);
+        most.advance(1);
+        due(most.order(0, 1), 13 * 999);
+        due(most.advance(9), 13 * 999);
+        stocksAre(most, 999);
+        due(most.count(2), 0);
     }
 
     private static void noFurtherPart() {

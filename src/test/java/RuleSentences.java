@@ -343,6 +343,8 @@ final class RuleSentences extends Edges {
         refuses(ARGUMENT, eightParts(), x -> x.addPart(1000, 1, 1, 1));
         refuses(ARGUMENT, eightParts(), x -> x.addPart(0, 1, 1, -1));
         refuses(INDEX, busy, x -> x.setBounds(3, 2, 1));
+        refuses(INDEX, busy, x -> x.setBounds(3, -1, 1));
+        refuses(INDEX, busy, x -> x.setBounds(-1, 1, 1000));
         refuses(INDEX, busy, x -> x.setYield(-1, 101));
         refuses(INDEX, busy, x -> x.addSubstitute(3, 3));
         refuses(INDEX, fourSubstitutes(), x -> x.addSubstitute(0, 6));
