@@ -86,16 +86,12 @@ final class HistorySentences extends Edges {
 
     private static void allIsSaved() {
         for (Scene scene : allKinds()) {
-            SparePlanner x = scene.get();
-            String world = Answers.ofWorld(x);
-            x.save();
-            due(Answers.ofWorld(x), world);
-            x.clear();
-            x.addPart(9, 9, 9, 9);
-            x.addKit(0, 0, 9);
-            x.request(0, 99);
-            x.restore();
-            due(Answers.ofWorld(x), world);
+            String world = Answers.ofWorld(scene.get());
+            Scene saved = scene.and(SparePlanner::save);
+            due(Answers.ofWorld(saved.get()), world);
+            Scene other = saved.and(SparePlanner::clear).and(x -> x.addPart(9, 9, 9, 9)).and(x -> x.addKit(0, 0, 9))
+                .and(x -> x.request(0, 99));
+            due(Answers.ofWorld(other.and(SparePlanner::restore).get()), world);
         }
         // save is no change, and forgets none
         SparePlanner x = busy();
@@ -105,14 +101,9 @@ final class HistorySentences extends Edges {
 
     private static void savedIsReplaced() {
         for (Scene scene : allKinds()) {
-            SparePlanner x = scene.get();
-            x.save();
-            x.advance(1);
-            x.save();
-            String world = Answers.ofWorld(x);
-            x.clear();
-            x.restore();
-            due(Answers.ofWorld(x), world);
+            Scene second = scene.and(SparePlanner::save).and(x -> x.advance(1));
+            Scene restored = second.and(SparePlanner::save).and(SparePlanner::clear).and(SparePlanner::restore);
+            due(Answers.ofWorld(restored.get()), Answers.ofWorld(second.get()));
         }
         SparePlanner x = busy();
         x.clear();
@@ -133,9 +124,9 @@ final class HistorySentences extends Edges {
     /** Whatever came behind save is gone, and what the history does not remember stays. */
     private static void savedIsRestored() {
         for (Scene scene : allKinds()) {
+            String world = Answers.ofWorld(scene.get());
             for (Scene other : allKinds()) {
                 SparePlanner x = scene.get();
-                String world = Answers.ofWorld(x);
                 x.save();
                 x.clear();
                 for (int part = 0; part < other.get().count(0); part++) {
@@ -157,18 +148,15 @@ final class HistorySentences extends Edges {
     }
 
     private static void staysSaved() {
-        SparePlanner x = busy();
-        x.restore();
-        String world = Answers.ofWorld(x);
+        Scene scene = ((Scene) Edges::busy).and(SparePlanner::restore);
+        String world = Answers.ofWorld(scene.get());
         for (int i = 0; i < 3; i++) {
-            x.advance(9);
-            x.addPart(9, 9, 9, 9);
-            due(x.restore(), 3);
-            due(Answers.ofWorld(x), world);
-            x.clear();
+            scene = scene.and(x -> x.advance(9)).and(x -> x.addPart(9, 9, 9, 9)).and(SparePlanner::restore);
+            due(Answers.ofWorld(scene.get()), world);
+            scene = scene.and(SparePlanner::clear);
+            due(scene.get().restore(), 3);
+            due(Answers.ofWorld(scene.and(SparePlanner::restore).get()), world);
         }
-        due(x.restore(), 3);
-        due(Answers.ofWorld(x), world);
     }
 
     private static void nothingSaved() {
