@@ -23,17 +23,17 @@ final class Check {
     }
 
     /** The call must throw exactly this, and leave everything that can be asked as it was. */
-    static void refuses(SparePlanner planner, String what, Class<?> due, Call call) {
-        String rest = Answers.ofRest(planner);
+    static void refuses(Recorded planner, String what, Class<?> due, Call call) {
+        String rest = Answers.ofRest(planner.again());
         refusesButKeeps(planner, what, due, call);
-        same(what + ": shelves, reasons and the like behind it", Answers.ofRest(planner), rest);
+        same(what + ": shelves, reasons and the like behind it", Answers.ofRest(planner.again()), rest);
     }
 
     /** As refuses, for calls that keep a reason, an error position or a refused entry. */
-    static void refusesButKeeps(SparePlanner planner, String what, Class<?> due, Call call) {
-        String world = Answers.ofWorld(planner);
+    static void refusesButKeeps(Recorded planner, String what, Class<?> due, Call call) {
+        String world = Answers.ofWorld(planner.again());
         same(what, outcome(call), due.getSimpleName());
-        same(what + ": the state behind it", Answers.ofWorld(planner), world);
+        same(what + ": the state behind it", Answers.ofWorld(planner.again()), world);
     }
 
     /** The answer of a call, or the name of the very class of what it throws. */
@@ -53,6 +53,17 @@ final class Check {
 
     /** Reads a text; the outcome is the number of entries or the name of the exception. */
     static String read(SparePlanner planner, String characters) {
+        append(planner, characters);
+        return outcome(planner::read);
+    }
+
+    static void append(Recorded planner, String characters) {
+        for (char character : characters.toCharArray()) {
+            planner.append(character);
+        }
+    }
+
+    static String read(Recorded planner, String characters) {
         append(planner, characters);
         return outcome(planner::read);
     }

@@ -20,8 +20,8 @@ final class HistoryTest {
         Check.end("HistoryTest");
     }
 
-    private static SparePlanner filled() {
-        SparePlanner x = new SparePlanner();
+    private static Recorded filled() {
+        Recorded x = new Recorded();
         x.addPart(3, 1, 2, 50);
         x.addPart(2, 2, 1, 70);
         x.addPart(0, 1, 1, 30);
@@ -41,7 +41,7 @@ final class HistoryTest {
         return x;
     }
 
-    private static Check.Call[] changes(SparePlanner x) {
+    private static Check.Call[] changes(Recorded x) {
         return new Check.Call[] {() -> x.addPart(4, 2, 2, 2), () -> x.setBounds(0, 7, 9), () -> x.setYield(0, 99),
             () -> x.addSubstitute(1, 2), () -> x.removeSubstitute(0, 1), () -> x.addKit(2, 0, 5),
             () -> x.addKit(0, 2, 4), () -> x.request(2, 9), () -> x.giveBack(2, 30, true), () -> x.take(0),
@@ -52,7 +52,7 @@ final class HistoryTest {
     }
 
     private static void eachChangeIsUndone() {
-        SparePlanner x = filled();
+        Recorded x = filled();
         int changes = changes(x).length;
         for (int i = 0; i < changes; i++) {
             x = filled();
@@ -60,16 +60,16 @@ final class HistoryTest {
                 x.giveBack(1, 60, true);
                 x.giveBack(0, 60, true);
             }
-            String before = Answers.ofWorld(x);
+            String before = Answers.ofWorld(x.again());
             Check.outcome(changes(x)[i]);
-            Check.same("change " + i + " changes answers", Answers.ofWorld(x).equals(before), false);
+            Check.same("change " + i + " changes answers", Answers.ofWorld(x.again()).equals(before), false);
             Check.due("undo of change " + i, x.undo(), 7);
-            Check.same("all answers behind undo of change " + i, Answers.ofWorld(x), before);
+            Check.same("all answers behind undo of change " + i, Answers.ofWorld(x.again()), before);
         }
     }
 
     private static void changesWithoutEffectAreChanges() {
-        SparePlanner x = new SparePlanner();
+        Recorded x = new Recorded();
         x.addPart(5, 1, 1, 50);
         x.setBounds(0, 0, 0);
         x.setYield(0, 50);
@@ -81,7 +81,7 @@ final class HistoryTest {
     }
 
     private static void refusedCallsAreNoChanges() {
-        SparePlanner x = new SparePlanner();
+        Recorded x = new Recorded();
         x.addPart(5, 1, 1, 50);
         x.addPart(5, 1, 1, 50);
         x.addKit(0, 0, 9);
@@ -102,7 +102,7 @@ final class HistoryTest {
     }
 
     private static void eightChangesAreRemembered() {
-        SparePlanner x = new SparePlanner();
+        Recorded x = new Recorded();
         x.addPart(0, 1, 1, 50);
         for (int i = 1; i <= 20; i++) {
             x.setYield(0, i);
@@ -116,7 +116,7 @@ final class HistoryTest {
     }
 
     private static void olderChangesAreForgottenForGood() {
-        SparePlanner x = new SparePlanner();
+        Recorded x = new Recorded();
         x.addPart(0, 1, 1, 50);
         for (int i = 1; i <= 9; i++) {
             x.setYield(0, i);
@@ -136,15 +136,15 @@ final class HistoryTest {
     }
 
     private static void undoLeavesTheRest() {
-        SparePlanner x = filled();
+        Recorded x = filled();
         Check.read(x, "x");
         Check.append(x, "d1;");
         x.sample(1, 0, 0);
         x.save();
         Check.same("take", Check.outcome(() -> x.take(0)), "UnsupportedOperationException");
-        String rest = Answers.ofRest(x);
+        String rest = Answers.ofRest(x.again());
         x.undo();
-        Check.same("shelves, error position and reasons behind undo", Answers.ofRest(x), rest);
+        Check.same("shelves, error position and reasons behind undo", Answers.ofRest(x.again()), rest);
         Check.due("the input behind undo", x.append('d'), 4);
         Check.due("requests are taken back", x.count(6), 1);
         x.cancel(0);
@@ -156,7 +156,7 @@ final class HistoryTest {
     }
 
     private static void clearAndRestoreForgetChanges() {
-        SparePlanner x = filled();
+        Recorded x = filled();
         x.save();
         x.setYield(0, 1);
         x.clear();
@@ -171,25 +171,25 @@ final class HistoryTest {
     }
 
     private static void whatWasSavedIsRestored() {
-        SparePlanner x = filled();
-        String first = Answers.ofWorld(x);
+        Recorded x = filled();
+        String first = Answers.ofWorld(x.again());
         Check.due("save", x.save(), 3);
         for (Check.Call change : changes(x)) {
             Check.outcome(change);
         }
-        Check.same("changed", Answers.ofWorld(x).equals(first), false);
+        Check.same("changed", Answers.ofWorld(x.again()).equals(first), false);
         Check.due("restore", x.restore(), 3);
-        Check.same("all answers behind restore", Answers.ofWorld(x), first);
+        Check.same("all answers behind restore", Answers.ofWorld(x.again()), first);
         x.giveBack(0, 500, true);
         x.removeSubstitute(0, 1);
         Check.due("restore again", x.restore(), 3);
-        Check.same("it stays saved", Answers.ofWorld(x), first);
+        Check.same("it stays saved", Answers.ofWorld(x.again()), first);
         x.addPart(9, 9, 9, 9);
-        String second = Answers.ofWorld(x);
+        String second = Answers.ofWorld(x.again());
         Check.due("save again", x.save(), 4);
         Check.due("save is no change", x.undo(), 0);
         Check.due("restore the second one", x.restore(), 4);
-        Check.same("it replaced the first one", Answers.ofWorld(x), second);
+        Check.same("it replaced the first one", Answers.ofWorld(x.again()), second);
         x.clear();
         Check.due("save of nothing", x.save(), 0);
         x.addPart(9, 9, 9, 9);
@@ -199,8 +199,8 @@ final class HistoryTest {
 
     /** Other parts, kits, requests, repairs and orders must not shine through. */
     private static void partsAreRestoredWhole() {
-        SparePlanner x = filled();
-        String before = Answers.ofWorld(x);
+        Recorded x = filled();
+        String before = Answers.ofWorld(x.again());
         x.save();
         x.clear();
         for (int part = 0; part < 8; part++) {
@@ -215,24 +215,24 @@ final class HistoryTest {
             }
         }
         x.restore();
-        Check.same("all answers behind restore", Answers.ofWorld(x), before);
+        Check.same("all answers behind restore", Answers.ofWorld(x.again()), before);
     }
 
     private static void restoreLeavesTheRest() {
-        SparePlanner x = filled();
+        Recorded x = filled();
         x.save();
         Check.read(x, "x");
         Check.append(x, "d1");
         x.sample(1, 2, 0);
         Check.outcome(() -> x.take(0));
-        String rest = Answers.ofRest(x);
+        String rest = Answers.ofRest(x.again());
         x.restore();
-        Check.same("shelves, error position and reasons behind restore", Answers.ofRest(x), rest);
+        Check.same("shelves, error position and reasons behind restore", Answers.ofRest(x.again()), rest);
         Check.due("the input behind restore", x.append(';'), 3);
     }
 
     private static void restoreIsRefused() {
-        SparePlanner x = new SparePlanner();
+        Recorded x = new Recorded();
         x.addPart(1, 1, 1, 1);
         Check.refuses(x, "restore", STATE, x::restore);
         Check.due("the change is still remembered", x.undo(), 0);

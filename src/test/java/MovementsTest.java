@@ -24,7 +24,7 @@ final class MovementsTest {
     }
 
     private static void movementsAreCounted() {
-        SparePlanner x = new SparePlanner();
+        Recorded x = new Recorded();
         x.addPart(7, 1, 1, 50);
         x.addPart(6, 1, 1, 50);
         x.setBounds(0, 9, 10);
@@ -46,7 +46,7 @@ final class MovementsTest {
     }
 
     private static void movementsAddUp() {
-        SparePlanner x = new SparePlanner();
+        Recorded x = new Recorded();
         Check.due("audit without parts", x.audit(), 0);
         x.addPart(7, 2, 3, 35);
         x.addPart(0, 1, 1, 50);
@@ -66,7 +66,7 @@ final class MovementsTest {
     }
 
     private static void sharesAreTold() {
-        SparePlanner x = new SparePlanner();
+        Recorded x = new Recorded();
         x.addPart(2, 9, 1, 100);
         x.request(0, 2);
         Check.same("all at once", x.service(0), 1f);
@@ -76,14 +76,14 @@ final class MovementsTest {
         Check.same("what is served later does not count", x.service(0), 2f / 3f);
         x.request(0, 4);
         Check.same("six of seven", x.service(0), 6f / 7f);
-        SparePlanner none = new SparePlanner();
+        Recorded none = new Recorded();
         none.addPart(0, 1, 1, 100);
         none.request(0, 5);
         Check.same("none of five", none.service(0), 0f);
     }
 
     private static void sharesOfSubstitutesCountForTheRequestedPart() {
-        SparePlanner x = new SparePlanner();
+        Recorded x = new Recorded();
         x.addPart(1, 1, 1, 100);
         x.addPart(3, 1, 1, 100);
         x.addSubstitute(0, 1);
@@ -93,7 +93,7 @@ final class MovementsTest {
     }
 
     private static void sharesAreRefused() {
-        SparePlanner x = new SparePlanner();
+        Recorded x = new Recorded();
         x.addPart(1, 1, 1, 100);
         Check.refuses(x, "service(1) of 1", INDEX, () -> x.service(1));
         Check.refuses(x, "service(-1)", INDEX, () -> x.service(-1));
@@ -109,7 +109,7 @@ final class MovementsTest {
     private static void bitsAreThoseOfFloats() {
         for (int requested = 1; requested <= 999; requested += 7) {
             for (int stock = 0; stock <= requested; stock += 13) {
-                SparePlanner x = new SparePlanner();
+                Recorded x = new Recorded();
                 x.addPart(stock, 1, 1, 100);
                 x.request(0, requested);
                 float share = (float) stock / (float) requested;
@@ -118,7 +118,7 @@ final class MovementsTest {
                 Check.due("the bits of the average", x.averageBits(), Double.doubleToLongBits(share));
             }
         }
-        SparePlanner x = new SparePlanner();
+        Recorded x = new Recorded();
         x.addPart(1, 1, 1, 100);
         for (int i = 0; i < 200; i++) {
             x.request(0, 999);
@@ -128,8 +128,8 @@ final class MovementsTest {
         Check.due("and of its average", x.averageBits(), Double.doubleToLongBits(1f / 199800f));
     }
 
-    private static SparePlanner withShares(int[][] shares) {
-        SparePlanner x = new SparePlanner();
+    private static Recorded withShares(int[][] shares) {
+        Recorded x = new Recorded();
         for (int[] share : shares) {
             x.addPart(share[0], 9, 1, 100);
         }
@@ -147,15 +147,15 @@ final class MovementsTest {
         Check.due("only requested parts", withShares(new int[][] {{5, 0}, {9, 0}, {2, 2}}).weakest(), 2);
         Check.due("none at once", withShares(new int[][] {{1, 9}, {0, 9}, {0, 1}}).weakest(), 1);
         Check.due("one piece is enough", withShares(new int[][] {{1, 0}, {1, 1}}).weakest(), 1);
-        SparePlanner x = withShares(new int[][] {{5, 0}, {9, 0}});
+        Recorded x = withShares(new int[][] {{5, 0}, {9, 0}});
         Check.refuses(x, "weakest of none", ELEMENT, x::weakest);
-        SparePlanner empty = new SparePlanner();
+        Recorded empty = new Recorded();
         Check.refuses(empty, "weakest without parts", ELEMENT, empty::weakest);
     }
 
     /** Two shares that differ, but not as floats: a share is told as a float, so they are equal. */
     private static void equalSharesAsFloatsAreEqual() {
-        SparePlanner x = new SparePlanner();
+        Recorded x = new Recorded();
         x.addPart(0, 9, 1, 100);
         x.addPart(0, 9, 1, 100);
         requestOf(x, 0, 49999, 99997);
@@ -166,7 +166,7 @@ final class MovementsTest {
     }
 
     /** Requests so many pieces of a part in all, of which so many are served at once. */
-    private static void requestOf(SparePlanner x, int part, int served, int requested) {
+    private static void requestOf(Recorded x, int part, int served, int requested) {
         for (int rest = served; rest > 0; rest -= 999) {
             x.giveBack(part, Math.min(rest, 999), true);
         }
@@ -179,26 +179,26 @@ final class MovementsTest {
     }
 
     private static void averagesAreTold() {
-        SparePlanner x = withShares(new int[][] {{2, 3}, {1, 7}, {9, 0}, {5, 5}, {1, 3}, {0, 4}});
+        Recorded x = withShares(new int[][] {{2, 3}, {1, 7}, {9, 0}, {5, 5}, {1, 3}, {0, 4}});
         double due = ((double) (2f / 3f) + (double) (1f / 7f) + 1.0 + (double) (1f / 3f) + 0.0) / 5.0;
         Check.same("averageService", x.averageService(), due);
         Check.due("averageBits", x.averageBits(), Double.doubleToLongBits(due));
-        SparePlanner one = withShares(new int[][] {{1, 1}});
+        Recorded one = withShares(new int[][] {{1, 1}});
         Check.same("the average of one", one.averageService(), 1.0);
         Check.due("its bits", one.averageBits(), Double.doubleToLongBits(1.0));
-        SparePlanner none = withShares(new int[][] {{0, 1}, {0, 2}});
+        Recorded none = withShares(new int[][] {{0, 1}, {0, 2}});
         Check.same("the average of nothing served", none.averageService(), 0.0);
         Check.due("its bits", none.averageBits(), 0L);
     }
 
     private static void averagesAreRefused() {
-        SparePlanner x = withShares(new int[][] {{5, 0}});
+        Recorded x = withShares(new int[][] {{5, 0}});
         Check.refuses(x, "averageService", ARITHMETIC, x::averageService);
         Check.refuses(x, "averageBits", ARITHMETIC, x::averageBits);
     }
 
     private static void reasonsAreKept() {
-        SparePlanner x = new SparePlanner();
+        Recorded x = new Recorded();
         x.addPart(0, 9, 1, 100);
         x.addPart(3, 9, 1, 100);
         x.addKit(0, 1, 7);
@@ -226,7 +226,7 @@ final class MovementsTest {
     }
 
     private static void reasonsAreRefused() {
-        SparePlanner x = new SparePlanner();
+        Recorded x = new Recorded();
         Check.refuses(x, "reason(0) of none", ELEMENT, () -> x.reason(0));
         Check.refuses(x, "reason(1) of none", ELEMENT, () -> x.reason(1));
         Check.refuses(x, "reason(3) of none", ARGUMENT, () -> x.reason(3));

@@ -30,7 +30,7 @@ final class PartsTest {
     }
 
     private static void aNewObjectIsEmpty() {
-        SparePlanner x = new SparePlanner();
+        Recorded x = new Recorded();
         for (int what = 0; what < 8; what++) {
             Check.due("count(" + what + ") of a new object", x.count(what), 0);
         }
@@ -51,11 +51,11 @@ final class PartsTest {
     }
 
     private static void clearRemovesParts() {
-        SparePlanner x = new SparePlanner();
+        Recorded x = new Recorded();
         Check.due("clear of nothing", x.clear(), 0);
         fill(x);
         Check.due("clear", x.clear(), 2);
-        Check.same("all answers behind clear", Answers.ofWorld(x), Answers.ofWorld(new SparePlanner()));
+        Check.same("all answers behind clear", Answers.ofWorld(x.again()), Answers.ofWorld(new SparePlanner()));
         Check.refuses(x, "undo behind clear", ELEMENT, x::undo);
         Check.due("a part behind clear", x.addPart(7, 1, 1, 0), 0);
         for (int movement = 1; movement < 8; movement++) {
@@ -72,7 +72,7 @@ final class PartsTest {
     }
 
     /** Two parts, a kit, a waiting request, a repair and an order, on day 1. */
-    private static void fill(SparePlanner x) {
+    private static void fill(Recorded x) {
         x.addPart(2, 3, 3, 50);
         x.addPart(0, 1, 1, 100);
         x.addSubstitute(0, 1);
@@ -86,28 +86,28 @@ final class PartsTest {
     }
 
     private static void clearLeavesTheRest() {
-        SparePlanner x = new SparePlanner();
+        Recorded x = new Recorded();
         fill(x);
         x.sample(1, 2, 0);
         Check.read(x, "x");
         Check.read(x, "d1;k0;");
         x.save();
         Check.append(x, "d1");
-        String rest = Answers.ofRest(x);
-        String world = Answers.ofWorld(x);
+        String rest = Answers.ofRest(x.again());
+        String world = Answers.ofWorld(x.again());
         x.clear();
-        Check.same("shelves, error position, refused entry and reasons behind clear", Answers.ofRest(x), rest);
+        Check.same("shelves, error position, refused entry and reasons behind clear", Answers.ofRest(x.again()), rest);
         Check.due("reason behind clear", x.reason(0), 3);
         Check.due("errorPosition behind clear", x.errorPosition(), 0);
         Check.due("refused behind clear", x.refused(), 1);
         Check.due("the input behind clear", x.append(';'), 3);
         Check.due("read behind clear", x.read(), 1);
         Check.due("restore behind clear", x.restore(), 2);
-        Check.same("all answers behind restore", Answers.ofWorld(x), world);
+        Check.same("all answers behind restore", Answers.ofWorld(x.again()), world);
     }
 
     private static void partsBehindClearBeginAnew() {
-        SparePlanner x = new SparePlanner();
+        Recorded x = new Recorded();
         for (int part = 0; part < 3; part++) {
             x.addPart(7, 1, 1, 50);
             x.request(part, 5);
@@ -130,7 +130,7 @@ final class PartsTest {
     }
 
     private static void partsAreAdded() {
-        SparePlanner x = new SparePlanner();
+        Recorded x = new Recorded();
         for (int part = 0; part < 8; part++) {
             Check.due("addPart", x.addPart(10 * part, part + 1, 9 - part, 5 * part), part);
         }
@@ -144,14 +144,14 @@ final class PartsTest {
                 Check.due("part(.., " + what + ") at first", x.part(part, what), 0);
             }
         }
-        SparePlanner edges = new SparePlanner();
+        Recorded edges = new Recorded();
         Check.due("the least numbers", edges.addPart(0, 1, 1, 0), 0);
         Check.due("the greatest numbers", edges.addPart(999, 9, 9, 100), 1);
         Check.due("the greatest stock", edges.part(1, 0), 999);
     }
 
     private static void partsAreRefused() {
-        SparePlanner x = new SparePlanner();
+        Recorded x = new Recorded();
         for (int full = 0; full < 2; full++) {
             Check.refuses(x, "stock -1", ARGUMENT, () -> x.addPart(-1, 1, 1, 1));
             Check.refuses(x, "stock 1000", ARGUMENT, () -> x.addPart(1000, 1, 1, 1));
@@ -171,7 +171,7 @@ final class PartsTest {
     }
 
     private static void boundsAreSet() {
-        SparePlanner x = new SparePlanner();
+        Recorded x = new Recorded();
         x.addPart(5, 1, 1, 1);
         x.addPart(5, 1, 1, 1);
         Check.due("setBounds at first", x.setBounds(1, 3, 8), 0);
@@ -192,7 +192,7 @@ final class PartsTest {
     }
 
     private static void yieldsAreSet() {
-        SparePlanner x = new SparePlanner();
+        Recorded x = new Recorded();
         x.addPart(5, 1, 1, 40);
         x.addPart(5, 1, 1, 60);
         Check.due("setYield", x.setYield(0, 100), 40);
@@ -205,8 +205,8 @@ final class PartsTest {
         Check.refuses(x, "yield -1", ARGUMENT, () -> x.setYield(0, -1));
     }
 
-    private static SparePlanner withParts(int parts) {
-        SparePlanner x = new SparePlanner();
+    private static Recorded withParts(int parts) {
+        Recorded x = new Recorded();
         for (int part = 0; part < parts; part++) {
             x.addPart(part, 1, 1, 100);
         }
@@ -214,7 +214,7 @@ final class PartsTest {
     }
 
     private static void substitutesAreAdded() {
-        SparePlanner x = withParts(8);
+        Recorded x = withParts(8);
         int[] others = {5, 2, 7, 0};
         for (int i = 0; i < 4; i++) {
             Check.due("addSubstitute", x.addSubstitute(3, others[i]), i + 1);
@@ -228,7 +228,7 @@ final class PartsTest {
     }
 
     private static void substitutesAreRefused() {
-        SparePlanner x = withParts(6);
+        Recorded x = withParts(6);
         Check.refuses(x, "a substitute of part 6 of 6", INDEX, () -> x.addSubstitute(6, 6));
         Check.refuses(x, "a substitute of part -1", INDEX, () -> x.addSubstitute(-1, 0));
         Check.refuses(x, "part 6 of 6 as a substitute", INDEX, () -> x.addSubstitute(0, 6));
@@ -244,7 +244,7 @@ final class PartsTest {
     }
 
     private static void substitutesAreRemoved() {
-        SparePlanner x = withParts(6);
+        Recorded x = withParts(6);
         for (int other = 1; other < 5; other++) {
             x.addSubstitute(0, other);
         }
@@ -268,7 +268,7 @@ final class PartsTest {
     }
 
     private static void kitsAreAdded() {
-        SparePlanner x = withParts(5);
+        Recorded x = withParts(5);
         for (int kit = 0; kit < 4; kit++) {
             Check.due("a new kit", x.addKit(kit, kit, 9 - kit), 1);
             Check.due("the number of kits", x.count(1), kit + 1);
@@ -287,7 +287,7 @@ final class PartsTest {
     }
 
     private static void kitsAreRefused() {
-        SparePlanner x = withParts(5);
+        Recorded x = withParts(5);
         Check.refuses(x, "kit 1 of none", INDEX, () -> x.addKit(1, 0, 10));
         Check.refuses(x, "kit -1", INDEX, () -> x.addKit(-1, 0, 1));
         Check.refuses(x, "an item of part 5 of 5", INDEX, () -> x.addKit(0, 5, 10));
@@ -309,7 +309,7 @@ final class PartsTest {
     }
 
     private static void countsAreTold() {
-        SparePlanner x = new SparePlanner();
+        Recorded x = new Recorded();
         fill(x);
         x.request(1, 4);
         x.request(0, 7);
@@ -322,7 +322,7 @@ final class PartsTest {
     }
 
     private static void numbersOfPartsAreTold() {
-        SparePlanner x = new SparePlanner();
+        Recorded x = new Recorded();
         fill(x);
         // the order of day 1 lifts the position of part 0 to its upper bound
         int[] due = {0, 2, 3, 9, 3, 3, 50, 9, 0, 1};
@@ -338,7 +338,7 @@ final class PartsTest {
     }
 
     private static void substitutesAreTold() {
-        SparePlanner x = withParts(3);
+        Recorded x = withParts(3);
         x.addSubstitute(0, 2);
         Check.due("substitute(0, 0)", x.substitute(0, 0), 2);
         Check.refuses(x, "substitute(0, 1)", ELEMENT, () -> x.substitute(0, 1));
@@ -350,7 +350,7 @@ final class PartsTest {
     }
 
     private static void relationsAreTold() {
-        SparePlanner x = withParts(4);
+        Recorded x = withParts(4);
         x.addSubstitute(0, 1);
         x.addSubstitute(1, 2);
         x.addSubstitute(2, 1);
@@ -366,7 +366,7 @@ final class PartsTest {
     }
 
     private static void itemsAreTold() {
-        SparePlanner x = withParts(3);
+        Recorded x = withParts(3);
         x.addKit(0, 2, 7);
         Check.due("the part", x.item(0, 0, true), 2);
         Check.due("the quantity", x.item(0, 0, false), 7);

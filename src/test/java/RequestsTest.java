@@ -27,22 +27,22 @@ final class RequestsTest {
         Check.end("RequestsTest");
     }
 
-    private static SparePlanner withStocks(int... stocks) {
-        SparePlanner x = new SparePlanner();
+    private static Recorded withStocks(int... stocks) {
+        Recorded x = new Recorded();
         for (int stock : stocks) {
             x.addPart(stock, 1, 1, 100);
         }
         return x;
     }
 
-    private static void stocks(String what, SparePlanner x, int... due) {
+    private static void stocks(String what, Recorded x, int... due) {
         for (int part = 0; part < due.length; part++) {
             Check.due("the stock of part " + part + " behind " + what, x.part(part, 0), due[part]);
         }
     }
 
     private static void requestsAreServedAtOnce() {
-        SparePlanner x = withStocks(10, 5);
+        Recorded x = withStocks(10, 5);
         Check.due("request", x.request(0, 4), 4);
         Check.due("request of all the rest", x.request(0, 6), 6);
         stocks("two requests", x, 0, 5);
@@ -53,7 +53,7 @@ final class RequestsTest {
     }
 
     private static void requestsAreServedBySubstitutesInOrder() {
-        SparePlanner x = withStocks(2, 3, 4, 50);
+        Recorded x = withStocks(2, 3, 4, 50);
         x.addSubstitute(0, 2);
         x.addSubstitute(0, 1);
         x.addSubstitute(1, 3);
@@ -68,7 +68,7 @@ final class RequestsTest {
     }
 
     private static void requestsWaitForWhatIsMissing() {
-        SparePlanner x = withStocks(3);
+        Recorded x = withStocks(3);
         x.advance(2);
         Check.due("request", x.request(0, 10), 3);
         Check.due("request of nothing that is there", x.request(0, 4), 0);
@@ -83,7 +83,7 @@ final class RequestsTest {
     }
 
     private static void requestsAreRefused() {
-        SparePlanner x = withStocks(2, 5);
+        Recorded x = withStocks(2, 5);
         Check.refuses(x, "part 2 of 2", INDEX, () -> x.request(2, 0));
         Check.refuses(x, "part -1", INDEX, () -> x.request(-1, 1));
         Check.refuses(x, "quantity 0", ARGUMENT, () -> x.request(0, 0));
@@ -102,7 +102,7 @@ final class RequestsTest {
     }
 
     private static void aNewRequestServesNoOtherOne() {
-        SparePlanner x = withStocks(0, 5);
+        Recorded x = withStocks(0, 5);
         x.request(0, 3);
         x.addSubstitute(0, 1);
         Check.due("addSubstitute serves none", x.waiting(0, 3), 3);
@@ -112,7 +112,7 @@ final class RequestsTest {
     }
 
     private static void onlyPiecesThatComeInServe() {
-        SparePlanner x = withStocks(0, 5, 0);
+        Recorded x = withStocks(0, 5, 0);
         x.request(0, 3);
         x.request(0, 9);
         x.addSubstitute(0, 1);
@@ -132,7 +132,7 @@ final class RequestsTest {
     }
 
     private static void stockInReachIsTold() {
-        SparePlanner x = withStocks(2, 3, 4, 50);
+        Recorded x = withStocks(2, 3, 4, 50);
         x.addSubstitute(0, 2);
         x.addSubstitute(0, 1);
         x.addSubstitute(1, 3);
@@ -144,10 +144,10 @@ final class RequestsTest {
     }
 
     private static void whatWouldBeTakenIsTold() {
-        SparePlanner x = withStocks(2, 3, 4, 50);
+        Recorded x = withStocks(2, 3, 4, 50);
         x.addSubstitute(0, 2);
         x.addSubstitute(0, 1);
-        String before = Answers.ofWorld(x);
+        String before = Answers.ofWorld(x.again());
         int[][] due = {{1, 1, 0, 0, 0}, {2, 2, 0, 0, 0}, {5, 2, 0, 3, 0}, {8, 2, 2, 4, 0}, {999, 2, 3, 4, 0}};
         for (int[] row : due) {
             for (int other = 0; other < 4; other++) {
@@ -155,7 +155,7 @@ final class RequestsTest {
             }
         }
         Check.due("taken(1, 0, 5)", x.taken(1, 0, 5), 0);
-        Check.same("all answers behind taken", Answers.ofWorld(x), before);
+        Check.same("all answers behind taken", Answers.ofWorld(x.again()), before);
         Check.refuses(x, "taken of part 4 of 4", INDEX, () -> x.taken(4, 0, 0));
         Check.refuses(x, "taken of part -1", INDEX, () -> x.taken(-1, 0, 1));
         Check.refuses(x, "taken from part 4 of 4", INDEX, () -> x.taken(0, 4, 1000));
@@ -165,7 +165,7 @@ final class RequestsTest {
     }
 
     private static void waitingRequestsAreTold() {
-        SparePlanner x = new SparePlanner();
+        Recorded x = new Recorded();
         // an order of what is missing arrives, with this lead, only behind what is asked here
         x.addPart(2, 9, 1, 100);
         x.addPart(0, 9, 1, 100);
@@ -187,7 +187,7 @@ final class RequestsTest {
     }
 
     private static void waitingRequestsAreCancelled() {
-        SparePlanner x = withStocks(2, 0);
+        Recorded x = withStocks(2, 0);
         x.request(0, 6);
         x.request(1, 5);
         x.request(0, 3);
@@ -210,7 +210,7 @@ final class RequestsTest {
     }
 
     private static void kitsAreTaken() {
-        SparePlanner x = withStocks(5, 4);
+        Recorded x = withStocks(5, 4);
         x.addKit(0, 1, 2);
         x.addKit(0, 0, 3);
         Check.due("take", x.take(0), 0);
@@ -222,7 +222,7 @@ final class RequestsTest {
     }
 
     private static void oneOfTwelveIsCancelled() {
-        SparePlanner x = withStocks(0);
+        Recorded x = withStocks(0);
         for (int i = 1; i <= 12; i++) {
             x.request(0, i);
         }
@@ -235,7 +235,7 @@ final class RequestsTest {
     }
 
     private static void kitsOfFourItemsAreTaken() {
-        SparePlanner x = withStocks(9, 9, 9, 9, 9);
+        Recorded x = withStocks(9, 9, 9, 9, 9);
         for (int part = 0; part < 4; part++) {
             x.addKit(0, part, part + 1);
         }
@@ -248,7 +248,7 @@ final class RequestsTest {
     }
 
     private static void kitsAreTakenWithSubstitutes() {
-        SparePlanner x = withStocks(2, 6, 9);
+        Recorded x = withStocks(2, 6, 9);
         x.addSubstitute(0, 1);
         x.addSubstitute(1, 2);
         x.addKit(0, 0, 5);
@@ -261,7 +261,7 @@ final class RequestsTest {
     }
 
     private static void kitsTakeAllOrNothing() {
-        SparePlanner x = withStocks(4, 5, 9);
+        Recorded x = withStocks(4, 5, 9);
         x.addSubstitute(0, 1);
         x.addKit(0, 2, 1);
         x.addKit(0, 0, 7);
@@ -278,7 +278,7 @@ final class RequestsTest {
     }
 
     private static void kitsAreRefused() {
-        SparePlanner x = withStocks(5, 0);
+        Recorded x = withStocks(5, 0);
         Check.refuses(x, "take without kits", INDEX, () -> x.take(0));
         x.addKit(0, 0, 1);
         x.addKit(1, 1, 9);
@@ -291,7 +291,7 @@ final class RequestsTest {
     }
 
     private static void possibleKitsAreCounted() {
-        SparePlanner x = withStocks(20, 30, 999);
+        Recorded x = withStocks(20, 30, 999);
         x.addSubstitute(0, 1);
         x.addKit(0, 0, 4);
         x.addKit(0, 1, 3);
@@ -301,7 +301,7 @@ final class RequestsTest {
         Check.due("up to 99", x.possible(1), 99);
         x.addKit(2, 2, 1);
         Check.due("not more than 99", x.possible(2), 99);
-        String before = Answers.ofWorld(x);
+        String before = Answers.ofWorld(x.again());
         int times = 0;
         while (Check.outcome(() -> x.take(0)).length() < 3) {
             times++;
@@ -311,16 +311,16 @@ final class RequestsTest {
         for (int i = 0; i < times; i++) {
             x.undo();
         }
-        Check.same("all answers behind undo", Answers.ofWorld(x), before);
+        Check.same("all answers behind undo", Answers.ofWorld(x.again()), before);
         Check.refuses(x, "possible(3) of 3", INDEX, () -> x.possible(3));
         Check.refuses(x, "possible(-1)", INDEX, () -> x.possible(-1));
-        SparePlanner just = withStocks(98);
+        Recorded just = withStocks(98);
         just.addKit(0, 0, 1);
         Check.due("98 times", just.possible(0), 98);
     }
 
     private static void whatKitsLackIsTold() {
-        SparePlanner x = withStocks(9, 1, 1, 0, 0, 0, 0, 0);
+        Recorded x = withStocks(9, 1, 1, 0, 0, 0, 0, 0);
         x.addSubstitute(1, 2);
         x.addKit(0, 0, 9);
         x.addKit(0, 1, 1);

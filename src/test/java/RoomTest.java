@@ -6,41 +6,43 @@ import java.lang.management.ManagementFactory;
  * rows, and calls that throw nothing make nothing more.
  */
 final class RoomTest {
-    private static final int CALLS = 300;
-    // less than the smallest object for each call, and more than the measuring itself makes
-    private static final long MOST = 8 * CALLS;
+    private static final int PLANNERS = 50;
+    // the dearest row of calls here has 61, and a planner is asked no more than 512
+    private static final int ROUNDS = 7;
+    // less than the smallest object for each round, and more than the measuring itself makes
+    private static final long MOST = 8 * PLANNERS * ROUNDS;
 
     interface Calls {
-        void call(int i);
+        void on(SparePlanner x, int i);
     }
 
     public static void main(String[] args) {
-        SparePlanner x = filled();
-        makesNothing("questions", i -> {
-            x.stockAfter(i % 8, 30);
+        makesNothing("questions", (x, i) -> {
+            x.stockAfter(i, 30);
             x.possible(i % 4);
             x.lacking(i % 4);
-            x.taken(i % 8, 0, 999);
-            x.available(i % 8);
+            x.taken(i, 0, 999);
+            x.available(i);
             x.audit();
             x.averageBits();
-            x.serviceBits(i % 8);
+            x.serviceBits(i);
             x.weakest();
-            x.part(i % 8, 7);
+            x.part(i, 7);
         });
-        makesNothing("changes", i -> {
-            x.giveBack(i % 8, 40, true);
-            x.giveBack(i % 8, 2, false);
-            x.request(i % 8, 5);
+        makesNothing("changes", (x, i) -> {
+            x.giveBack(i, 40, true);
+            x.giveBack(i, 2, false);
+            x.send(i, 1);
+            x.request(i, 5);
             x.take(i % 4);
-            x.setBounds(i % 8, 60, 90);
-            x.setYield(i % 8, i % 100);
+            x.setBounds(i, 60, 90);
+            x.setYield(i, i);
             x.addSubstitute(0, 7);
             x.removeSubstitute(0, 7);
-            x.advance(1 + i % 30);
-            x.sample(1, i % 3, i % 8);
+            x.advance(1 + i);
+            x.sample(1, i % 3, i);
         });
-        makesNothing("texts", i -> {
+        makesNothing("texts", (x, i) -> {
             for (int k = 0; k < 20; k++) {
                 x.append('d');
                 x.append('1');
@@ -48,14 +50,14 @@ final class RoomTest {
             }
             x.read();
         });
-        makesNothing("history and saving", i -> {
+        makesNothing("history and saving", (x, i) -> {
             x.advance(1);
             x.undo();
             x.save();
             x.restore();
             x.advance(2);
         });
-        makesNothing("clear, and parts and kits again", i -> {
+        makesNothing("clear, and parts and kits again", (x, i) -> {
             x.clear();
             x.addPart(5, 1, 1, 50);
             x.addKit(0, 0, 1);
@@ -65,6 +67,14 @@ final class RoomTest {
             x.cancel(0);
         });
         Check.end("RoomTest");
+    }
+
+    private static SparePlanner[] filledPlanners() {
+        SparePlanner[] all = new SparePlanner[PLANNERS];
+        for (int i = 0; i < PLANNERS; i++) {
+            all[i] = filled();
+        }
+        return all;
     }
 
     private static SparePlanner filled() {
@@ -82,16 +92,18 @@ final class RoomTest {
     }
 
     private static void makesNothing(String what, Calls calls) {
-        run(calls);
-        long made = run(calls);
+        madeBy(calls, filledPlanners());
+        long made = madeBy(calls, filledPlanners());
         Check.same(what + " make objects of " + made + " bytes", made < MOST, true);
     }
 
-    private static long run(Calls calls) {
+    private static long madeBy(Calls calls, SparePlanner[] planners) {
         ThreadMXBean thread = (ThreadMXBean) ManagementFactory.getThreadMXBean();
         long before = thread.getThreadAllocatedBytes(Thread.currentThread().getId());
-        for (int i = 0; i < CALLS; i++) {
-            calls.call(i);
+        for (SparePlanner planner : planners) {
+            for (int i = 0; i < ROUNDS; i++) {
+                calls.on(planner, i);
+            }
         }
         return thread.getThreadAllocatedBytes(Thread.currentThread().getId()) - before;
     }

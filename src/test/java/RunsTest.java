@@ -65,7 +65,7 @@ final class RunsTest {
             }
             Object[] call = planned.remove(0);
             Method method = methods.stream().filter(one -> one.getName().equals(call[0])).findFirst().orElseThrow();
-            Object[] arguments = call.length > 1 ? (Object[]) call[1] : arguments(method, program.count(0));
+            Object[] arguments = call.length > 1 ? (Object[]) call[1] : arguments(method, model.count(0));
             String got = outcome(method, program, arguments);
             Method same = Model.class.getMethod(method.getName(), method.getParameterTypes());
             String due = outcome(same, model, arguments);

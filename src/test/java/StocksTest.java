@@ -32,8 +32,8 @@ final class StocksTest {
         Check.end("StocksTest");
     }
 
-    private static SparePlanner withStocks(int... stocks) {
-        SparePlanner x = new SparePlanner();
+    private static Recorded withStocks(int... stocks) {
+        Recorded x = new Recorded();
         for (int stock : stocks) {
             x.addPart(stock, 1, 1, 100);
         }
@@ -41,7 +41,7 @@ final class StocksTest {
     }
 
     private static void goodPiecesComeBack() {
-        SparePlanner x = withStocks(3, 3);
+        Recorded x = withStocks(3, 3);
         Check.due("giveBack", x.giveBack(0, 4, true), 0);
         Check.due("the stock", x.part(0, 0), 7);
         Check.due("returned good", x.movement(0, 2), 4);
@@ -52,7 +52,7 @@ final class StocksTest {
     }
 
     private static void brokenPiecesComeBack() {
-        SparePlanner x = withStocks(0);
+        Recorded x = withStocks(0);
         x.request(0, 2);
         Check.due("giveBack", x.giveBack(0, 4, false), 0);
         Check.due("broken pieces", x.part(0, 1), 4);
@@ -65,7 +65,7 @@ final class StocksTest {
     }
 
     private static void waitingRequestsAreServedInTheirOrder() {
-        SparePlanner x = withStocks(0, 0, 0);
+        Recorded x = withStocks(0, 0, 0);
         x.addSubstitute(1, 0);
         x.request(0, 5);
         x.request(1, 4);
@@ -85,7 +85,7 @@ final class StocksTest {
     }
 
     private static void returnsAreRefused() {
-        SparePlanner x = withStocks(3);
+        Recorded x = withStocks(3);
         for (boolean isGood : new boolean[] {true, false}) {
             Check.refuses(x, "part 1 of 1", INDEX, () -> x.giveBack(1, 0, isGood));
             Check.refuses(x, "part -1", INDEX, () -> x.giveBack(-1, 1, isGood));
@@ -95,7 +95,7 @@ final class StocksTest {
     }
 
     private static void brokenPiecesAreSent() {
-        SparePlanner x = new SparePlanner();
+        Recorded x = new Recorded();
         x.addPart(0, 1, 4, 100);
         x.giveBack(0, 10, false);
         Check.due("send", x.send(0, 3), 4);
@@ -108,7 +108,7 @@ final class StocksTest {
     }
 
     private static void sendingIsRefused() {
-        SparePlanner x = withStocks(3, 3);
+        Recorded x = withStocks(3, 3);
         x.giveBack(0, 13, false);
         Check.refuses(x, "part 2 of 2", INDEX, () -> x.send(2, 0));
         Check.refuses(x, "part -1", INDEX, () -> x.send(-1, 1));
@@ -126,7 +126,7 @@ final class StocksTest {
     }
 
     private static void repairsAreTold() {
-        SparePlanner x = new SparePlanner();
+        Recorded x = new Recorded();
         x.addPart(0, 1, 5, 100);
         x.addPart(0, 1, 1, 100);
         x.addPart(0, 1, 3, 100);
@@ -151,7 +151,7 @@ final class StocksTest {
         Check.refuses(x, "repair when none is under way", INDEX, () -> x.repair(0, 0));
     }
 
-    private static void repairs(SparePlanner x, int[][] due) {
+    private static void repairs(Recorded x, int[][] due) {
         Check.due("repairs under way", x.count(3), due.length);
         for (int index = 0; index < due.length; index++) {
             for (int what = 0; what < 3; what++) {
@@ -160,7 +160,7 @@ final class StocksTest {
         }
     }
 
-    private static void orders(SparePlanner x, int[][] due) {
+    private static void orders(Recorded x, int[][] due) {
         Check.due("orders under way", x.count(4), due.length);
         for (int index = 0; index < due.length; index++) {
             for (int what = 0; what < 3; what++) {
@@ -170,7 +170,7 @@ final class StocksTest {
     }
 
     private static void repairsEnd() {
-        SparePlanner x = new SparePlanner();
+        Recorded x = new Recorded();
         x.addPart(0, 1, 2, 100);
         x.giveBack(0, 5, false);
         x.request(0, 3);
@@ -186,7 +186,7 @@ final class StocksTest {
     }
 
     private static void repairsLeaveHundredths() {
-        SparePlanner x = new SparePlanner();
+        Recorded x = new Recorded();
         x.addPart(0, 1, 1, 30);
         x.giveBack(0, 30, false);
         int[] quantities = {3, 3, 1, 10, 1};
@@ -208,7 +208,7 @@ final class StocksTest {
         Check.due("none of them", x.advance(1), 0);
         Check.due("the sum stays", x.part(0, 8), 40);
         Check.due("audit", x.audit(), 0);
-        SparePlanner y = new SparePlanner();
+        Recorded y = new Recorded();
         y.addPart(0, 1, 1, 99);
         y.giveBack(0, 2, false);
         y.send(0, 1);
@@ -219,7 +219,7 @@ final class StocksTest {
     }
 
     private static void repairsUseTheYieldOfTheirEnd() {
-        SparePlanner x = new SparePlanner();
+        Recorded x = new Recorded();
         x.addPart(0, 1, 2, 100);
         x.giveBack(0, 10, false);
         x.send(0, 10);
@@ -229,7 +229,7 @@ final class StocksTest {
     }
 
     private static void repairsWithoutPiecesServeNone() {
-        SparePlanner x = new SparePlanner();
+        Recorded x = new Recorded();
         x.addPart(0, 9, 1, 50);
         x.addPart(4, 9, 1, 100);
         x.request(0, 3);
@@ -245,7 +245,7 @@ final class StocksTest {
     }
 
     private static void ordersAreMade() {
-        SparePlanner x = new SparePlanner();
+        Recorded x = new Recorded();
         x.addPart(4, 3, 1, 100);
         x.addPart(4, 2, 1, 100);
         x.setBounds(0, 4, 9);
@@ -266,7 +266,7 @@ final class StocksTest {
     }
 
     private static void ordersArriveInTheirOrder() {
-        SparePlanner x = new SparePlanner();
+        Recorded x = new Recorded();
         x.addPart(0, 1, 1, 100);
         x.addPart(0, 1, 1, 100);
         x.addSubstitute(0, 1);
@@ -283,7 +283,7 @@ final class StocksTest {
     }
 
     private static void ordersAreTold() {
-        SparePlanner x = withStocks(0);
+        Recorded x = withStocks(0);
         x.setBounds(0, 1, 999);
         x.advance(1);
         orders(x, new int[][] {{0, 999, 2}});
@@ -295,7 +295,7 @@ final class StocksTest {
     }
 
     private static void ordersCanBeGreaterThanTheUpperBound() {
-        SparePlanner x = withStocks(0);
+        Recorded x = withStocks(0);
         x.request(0, 50);
         x.advance(1);
         orders(x, new int[][] {{0, 50, 2}});
@@ -309,7 +309,7 @@ final class StocksTest {
     }
 
     private static void twelveOrdersAreEnough() {
-        SparePlanner x = new SparePlanner();
+        Recorded x = new Recorded();
         for (int part = 0; part < 8; part++) {
             x.addPart(0, 9, 1, 100);
             x.setBounds(part, 1, 1);
@@ -331,7 +331,7 @@ final class StocksTest {
     }
 
     private static void repairsEndBeforeOrdersArrive() {
-        SparePlanner x = withStocks(0, 0);
+        Recorded x = withStocks(0, 0);
         x.addSubstitute(1, 0);
         x.addSubstitute(0, 1);
         x.setBounds(0, 1, 1);
@@ -345,7 +345,7 @@ final class StocksTest {
     }
 
     private static void positionsAreRoundedForEachRepair() {
-        SparePlanner x = new SparePlanner();
+        Recorded x = new Recorded();
         x.addPart(0, 1, 5, 50);
         x.giveBack(0, 9, false);
         x.send(0, 3);
@@ -362,7 +362,7 @@ final class StocksTest {
     }
 
     private static void daysAreRefused() {
-        SparePlanner x = withStocks(1);
+        Recorded x = withStocks(1);
         Check.refuses(x, "no day", ARGUMENT, () -> x.advance(0));
         Check.refuses(x, "-1 days", ARGUMENT, () -> x.advance(-1));
         Check.refuses(x, "31 days", ARGUMENT, () -> x.advance(31));
@@ -371,7 +371,7 @@ final class StocksTest {
     }
 
     private static void piecesOfAllDaysAreTold() {
-        SparePlanner x = new SparePlanner();
+        Recorded x = new Recorded();
         x.addPart(0, 1, 3, 50);
         x.setBounds(0, 4, 4);
         x.giveBack(0, 9, false);
@@ -383,7 +383,7 @@ final class StocksTest {
     }
 
     private static void whatIsWantedIsTold() {
-        SparePlanner x = new SparePlanner();
+        Recorded x = new Recorded();
         x.addPart(4, 2, 3, 50);
         Check.due("nothing at first", x.wanted(0), 0);
         x.setBounds(0, 4, 9);
@@ -403,7 +403,7 @@ final class StocksTest {
     }
 
     private static void wantedDoesNotLookAtOrders() {
-        SparePlanner x = new SparePlanner();
+        Recorded x = new Recorded();
         x.addPart(20, 9, 1, 100);
         x.addPart(0, 9, 1, 100);
         x.addPart(5, 9, 1, 100);
@@ -422,7 +422,7 @@ final class StocksTest {
     }
 
     private static void stocksOfLaterDaysAreTold() {
-        SparePlanner x = new SparePlanner();
+        Recorded x = new Recorded();
         x.addPart(1, 2, 3, 50);
         x.addPart(0, 4, 1, 70);
         x.addSubstitute(1, 0);
@@ -431,7 +431,7 @@ final class StocksTest {
         x.giveBack(0, 5, false);
         x.send(0, 5);
         x.request(1, 4);
-        String before = Answers.ofWorld(x);
+        String before = Answers.ofWorld(x.again());
         for (int days = 0; days <= 30; days++) {
             for (int part = 0; part < 2; part++) {
                 int told = x.stockAfter(part, days);
@@ -444,7 +444,7 @@ final class StocksTest {
                 }
             }
         }
-        Check.same("all answers behind it", Answers.ofWorld(x), before);
+        Check.same("all answers behind it", Answers.ofWorld(x.again()), before);
         Check.due("the stock now", x.stockAfter(0, 0), 0);
         Check.due("after the orders", x.stockAfter(0, 10), 5);
         Check.refuses(x, "part 2 of 2", INDEX, () -> x.stockAfter(2, -1));

@@ -27,19 +27,19 @@ final class TextsTest {
     }
 
     private static void samplesAreCopies() {
-        SparePlanner x = new SparePlanner();
+        Recorded x = new Recorded();
         x.addPart(5, 9, 1, 100);
         x.addPart(2, 9, 1, 100);
         x.advance(3);
         x.request(1, 6);
         Check.due("sample", x.sample(1, 2, 1), 1);
         Check.due("another sample", x.sample(1, 0, 0), 2);
-        String rest = Answers.ofRest(x);
+        String rest = Answers.ofRest(x.again());
         x.giveBack(1, 9, true);
         x.advance(1);
         x.undo();
         x.clear();
-        Check.same("the sample stays as it was", Answers.ofRest(x), rest);
+        Check.same("the sample stays as it was", Answers.ofRest(x.again()), rest);
         int[][] due = {{0, 5, 5, 3}, {1, 0, -4, 3}};
         for (int what = 0; what < 4; what++) {
             Check.due("sampled(1, 0, " + what + ")", x.sampled(1, 0, what), due[0][what]);
@@ -48,7 +48,7 @@ final class TextsTest {
     }
 
     private static void samplesReplaceOthers() {
-        SparePlanner x = new SparePlanner();
+        Recorded x = new Recorded();
         x.addPart(5, 9, 1, 100);
         x.addPart(2, 9, 1, 100);
         x.setBounds(0, 6, 6);
@@ -65,7 +65,7 @@ final class TextsTest {
     }
 
     private static void samplesAreRefused() {
-        SparePlanner x = new SparePlanner();
+        Recorded x = new Recorded();
         x.addPart(5, 9, 1, 100);
         Check.refuses(x, "shelf 2", INDEX, () -> x.sample(2, 0, 0));
         Check.refuses(x, "shelf -1", INDEX, () -> x.sample(-1, 0, 0));
@@ -84,7 +84,7 @@ final class TextsTest {
     }
 
     private static void samplesAreTold() {
-        SparePlanner x = new SparePlanner();
+        Recorded x = new Recorded();
         x.addPart(5, 9, 1, 100);
         x.sample(1, 0, 0);
         Check.refuses(x, "shelf 2", INDEX, () -> x.sampled(2, 0, 4));
@@ -98,7 +98,7 @@ final class TextsTest {
     }
 
     private static void charactersAreAppended() {
-        SparePlanner x = new SparePlanner();
+        Recorded x = new Recorded();
         for (int length = 1; length <= 60; length++) {
             Check.due("append", x.append((char) (length % 2 == 0 ? 32 : 126)), length);
         }
@@ -109,15 +109,15 @@ final class TextsTest {
     }
 
     private static void charactersAreRefused() {
-        SparePlanner x = new SparePlanner();
+        Recorded x = new Recorded();
         for (int code : new int[] {0, 10, 31, 127, 128, 160, 255, 256, 65535}) {
             Check.refuses(x, "character " + code, ARGUMENT, () -> x.append((char) code));
         }
         Check.due("none was appended", x.append(' '), 1);
     }
 
-    private static SparePlanner filled() {
-        SparePlanner x = new SparePlanner();
+    private static Recorded filled() {
+        Recorded x = new Recorded();
         for (int part = 0; part < 8; part++) {
             x.addPart(20 + part, 2, 2, 50);
         }
@@ -131,8 +131,8 @@ final class TextsTest {
     }
 
     private static void entriesDoWhatCallsDo() {
-        SparePlanner x = filled();
-        SparePlanner y = filled();
+        Recorded x = filled();
+        Recorded y = filled();
         Check.same("read", Check.read(x, "r7*40;g1*3;b2*12;s2*10;k1;d3;r0*999;b7*1;d9;"), "9");
         y.request(7, 40);
         y.giveBack(1, 3, true);
@@ -143,7 +143,7 @@ final class TextsTest {
         y.request(0, 999);
         y.giveBack(7, 1, false);
         y.advance(9);
-        Check.same("all answers behind the text", Answers.ofWorld(x), Answers.ofWorld(y));
+        Check.same("all answers behind the text", Answers.ofWorld(x.again()), Answers.ofWorld(y.again()));
         for (int kit = 0; kit < 4; kit++) {
             int asked = kit;
             Check.same("kit " + kit, Check.read(x, "k" + kit + ";"), Check.outcome(() -> {
@@ -164,18 +164,17 @@ final class TextsTest {
     }
 
     private static void textsAreOneChange() {
-        SparePlanner x = filled();
-        String before = Answers.ofWorld(x);
+        Recorded x = filled();
+        String before = Answers.ofWorld(x.again());
         Check.same("read", Check.read(x, "d1;g0*5;k0;r0*2;"), "4");
         Check.due("undo", x.undo(), 7);
-        Check.same("all answers behind undo", Answers.ofWorld(x), before);
+        Check.same("all answers behind undo", Answers.ofWorld(x.again()), before);
         Check.same("a refused text", Check.read(x, "d1;r0*999;s0*1;"), "UnsupportedOperationException");
         Check.same("a wrong text", Check.read(x, "d1;r0*999;s0*1"), "IllegalArgumentException");
         Check.due("no change then", x.undo(), 6);
     }
 
     private static void errorPositionsAreTold() {
-        SparePlanner x = filled();
         String[] texts = {"", "x", "R0*1;", " d1;", "d", "d1", "d0;", "d10;", "d1;;", "d1; ", "d1;d", "r", "r0", "r0*",
             "r0*1", "r0*12", "r0*123", "r0*1234;", "r8*1;", "r0x1;", "r0*0;", "r0*;", "r0*01;", "r0*1x;", "r0*12x",
             "r0*123x", "k4;", "k", "k0", "k00;", "k0*1;", "g-1*1;", "b0**1;", "s0*1;r0*1;k3;d9;g", "d1;r0*1;k9;", "*",
@@ -185,20 +184,21 @@ final class TextsTest {
             6, 1, 1, 2, 2, 2, 1, 3, 17, 9, 0,
             0, 0, 13, 1, 1, 4, 4, 3, 3, 1, 1};
         for (int i = 0; i < texts.length; i++) {
-            Check.append(x, texts[i]);
-            Check.refusesButKeeps(x, "read of '" + texts[i] + "'", ARGUMENT, x::read);
-            Check.due("errorPosition of '" + texts[i] + "'", x.errorPosition(), due[i]);
+            errorPositionIs(texts[i], due[i]);
         }
-        Check.append(x, "d1;".repeat(19) + "d1:");
-        Check.refusesButKeeps(x, "read of 60 characters", ARGUMENT, x::read);
-        Check.due("errorPosition in the last one", x.errorPosition(), 59);
-        Check.append(x, "d1;".repeat(19) + "r0*");
-        Check.refusesButKeeps(x, "read of 60 characters that could go on", ARGUMENT, x::read);
-        Check.due("errorPosition behind the last one", x.errorPosition(), 60);
+        errorPositionIs("d1;".repeat(19) + "d1:", 59);
+        errorPositionIs("d1;".repeat(19) + "r0*", 60);
+    }
+
+    private static void errorPositionIs(String text, int due) {
+        Recorded x = filled();
+        Check.append(x, text);
+        Check.refusesButKeeps(x, "read of '" + text + "'", ARGUMENT, x::read);
+        Check.due("errorPosition of '" + text + "'", x.errorPosition(), due);
     }
 
     private static void wrongTextsDoNothing() {
-        SparePlanner x = filled();
+        Recorded x = filled();
         Check.append(x, "r0*5;d9;x");
         Check.refusesButKeeps(x, "read", ARGUMENT, x::read);
         Check.due("the input is empty", x.append('d'), 1);
@@ -207,7 +207,7 @@ final class TextsTest {
     }
 
     private static void wordsOfAllLengthsAreRead() {
-        SparePlanner x = filled();
+        Recorded x = filled();
         Check.same("20 entries", Check.read(x, "d1;".repeat(20)), "20");
         Check.due("the day", x.count(5), 20);
         int stock = x.part(0, 0);
@@ -216,7 +216,7 @@ final class TextsTest {
     }
 
     private static void refusedTextsDoNothing() {
-        SparePlanner x = new SparePlanner();
+        Recorded x = new Recorded();
         x.addPart(5, 1, 1, 100);
         x.addKit(0, 0, 6);
         String[] texts = {"r1*1;", "d1;g7*1;", "d1;d1;b1*1;", "g0*1;k1;", "g0*1;r0*1;k0;", "b0*1;d1;s0*2;", "s1*1;", "k0;d1;"};
@@ -234,7 +234,7 @@ final class TextsTest {
     }
 
     private static void refusedTextsKeepReasons() {
-        SparePlanner x = new SparePlanner();
+        Recorded x = new Recorded();
         x.addPart(5, 9, 1, 100);
         x.addPart(0, 9, 1, 100);
         x.addKit(0, 0, 6);
@@ -264,7 +264,7 @@ final class TextsTest {
     }
 
     private static void keptNumbersStay() {
-        SparePlanner x = new SparePlanner();
+        Recorded x = new Recorded();
         Check.refuses(x, "no error position", ELEMENT, x::errorPosition);
         Check.refuses(x, "no refused entry", ELEMENT, x::refused);
         Check.read(x, "d1;d1;x");
